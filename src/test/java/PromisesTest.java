@@ -154,6 +154,11 @@ public final class PromisesTest {
         due.answer("count(11)", x.count(11), 0);
         due.answer("wipe()", x.wipe(), 0);
         due.answer("what is laid stays", x.count(0), 1);
+        // What was written ahead of wipe() is no longer there to end an item or a number.
+        put(x, "t0,1,5,0");
+        due.answer("fault() of a text without its old end", x.fault(), 0);
+        due.answer("lay()", x.lay(), NO);
+        put(x, "");
         due.answer("fault() of nothing", x.fault(), NONE);
         due.answer("write(116)", x.write(116), 1);
         for (int i = 1; i < 200; i++) {
