@@ -25,6 +25,14 @@ final class Due {
         answer(what, so ? 1 : 0, 1);
     }
 
+    void texts(String what, String got, String want) {
+        asked++;
+        if (!got.equals(want)) {
+            wrong++;
+            System.out.println(promise + ": " + what + " it is\n  " + got + "\nand due is\n  " + want);
+        }
+    }
+
     boolean allRight() {
         return wrong == 0;
     }
