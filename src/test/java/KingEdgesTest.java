@@ -8,6 +8,7 @@ public final class KingEdgesTest extends Edges {
         back();
         count();
         orderOfAnswers();
+        lastCalls();
         due.end();
     }
 
@@ -30,6 +31,10 @@ public final class KingEdgesTest extends Edges {
         edge("23 each for itself: two", "t0,1,5,0;t0,1,5,1;t0,1,5,2;a0;l2;",
             "grooms(1,0)=99 grooms(1,1)=100 grooms(5,0)=3 grooms(5,1)=4");
         edge("23 what may come can be SUGGESTED too", "t0,1,5,1;t0,1,5,1;a0;l2;", "grooms(5,0)=1 grooms(5,1)=1");
+        edge("23 with FRIENDS as they are", "t0,1,0,0;t0,1,5,1;a0;h0,0;",
+            "grooms(5,0)=0 grooms(5,1)=1 befriend(0)=20 grooms(5,0)=1 grooms(5,1)=1");
+        edge("23 with FRIENDS as they are: one is too few for two", "t0,1,0,0;t0,1,0,1;a0;h0,0;h0,0;",
+            "befriend(0)=20 grooms(5,0)=1 grooms(5,1)=2");
         edge("23 nothing is SUGGESTED by it", oneTooMany, "grooms(10,0)=0 count(2)=1 count(9)=0 task(1,4)=0");
     }
 
@@ -67,6 +72,12 @@ public final class KingEdgesTest extends Edges {
         edge("24 for all the CRUMBS, and then for none", "t0,3,0,0;h0,5;h0,1;a0;c5;",
             "king(0,1,0)=0 king(0,2,0)=1 king(0,2,1)=3");
         edge("24 HELPER (DRAW by 8, cut) modulo as many", "t0,3,0,0;h1,0;h0,0;a0;", "king(0,3,0)=0 king(0,4,0)=1");
+        edge("24 HELPER modulo as many: 2592 of seven is 2", "t0,3,4,0;a0;h0,0;h0,0;h4,0;h0,0;h0,0;h0,0;h0,0;",
+            "king(0,2,0)=0 king(0,3,0)=1");
+        edge("24 HELPER modulo as many: 643 of seven is 6", "t0,3,4,0;a0;h0,0;h0,0;h0,0;h0,0;h0,0;h0,0;h4,0;",
+            "king(0,3,0)=0 king(0,4,0)=1");
+        edge("24 HELPER modulo as many: 2342 of seven is 4", "t0,3,4,0;a0;h0,0;h0,0;h0,0;h0,0;h4,0;h0,0;h0,0;",
+            "king(0,4,0)=0 king(0,5,0)=1");
         edge("24 a TASK that can not be SUGGESTED: nothing", "t0,3,0,0;a0;",
             "king(0,40,0)=0 king(0,40,1)=0 king(0,40,2)=0");
         edge("24 those BROUGHT already count", "t0,1,5,0;t0,1,5,1;a0;", "ride(0)=1 king(0,1,0)=1 king(0,1,1)=1");
@@ -95,6 +106,11 @@ public final class KingEdgesTest extends Edges {
             + " count(5)=20 back()=NO");
         edge("26 nothing is UNDONE then", TWO,
             "befriend(0)=17 keep()=1 ride(0)=1 count(9)=2 back()=0 count(9)=0 undo()=NO ride(0)=1 count(9)=1");
+        edge("26 those USED are so again, those that were not are not",
+            "t0,1,0,0;t0,1,0,1;t0,1,0,2;a0;a1;a2;h0,0;h1,0;h0,0;h0,0;",
+            "befriend(0)=20 befriend(1)=20 befriend(2)=20 ride(0)=1 keep()=1 ride(1)=2 befriend(3)=20 back()=0"
+            + " helper(0,3)=1 helper(1,3)=0 helper(2,3)=0 helper(3,2)=0 help(1)=4 ride(1)=2 keep()=1 back()=0"
+            + " helper(0,3)=1 helper(2,3)=1");
         edge("26 what is SEEN stays", TWO, "see(0,2)=1 keep()=1 see(1,1)=2 back()=0 count(8)=2 forget()=2");
         edge("26 what was SEEN then is not SEEN again", TWO, "see(0,2)=1 keep()=1 forget()=1 back()=0 count(8)=0");
         edge("26 THE TEXT stays", TWO, "keep()=1 write(120)=32 back()=0 count(11)=32 fault()=31 wipe()=32");
@@ -112,6 +128,15 @@ public final class KingEdgesTest extends Edges {
         edge("27 FRIENDS not USED", TWO, "befriend(0)=17 befriend(1)=13 count(4)=2 ride(0)=1 count(4)=1");
         edge("27 ASKED, not BROUGHT", TWO,
             "count(2)=1 suggest(1)=2 count(2)=2 handUp(1)=5 count(2)=1 count(3)=1 handUp(0)=8 count(2)=0 count(3)=2");
+    }
+
+    private static void lastCalls() {
+        due.promise("an object is used for 512 calls: the last ones are answered as the first");
+        Told told = new Told(due);
+        for (int turn = 0; turn < 127; turn++) {
+            told.calls("befriend(0)=27 ride(0)=3 undo()=1 undo()=0");
+        }
+        told.calls("befriend(0)=27 ride(0)=3 step(5)=0 count(9)=2");
     }
 
     /** Of several the first of BAD, NO, NONE, FULL. */

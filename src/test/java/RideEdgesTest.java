@@ -179,6 +179,8 @@ public final class RideEdgesTest extends Edges {
         refused("11 NO: BROUGHT", TWO, "befriend(0)=17 ride(0)=1", "suggest(0)=NO");
         refused("11 NO: BROUGHT by handing up", TWO, "handUp(0)=3", "suggest(0)=NO");
         refused("11 NO: the HEAD is LOST", "t0,1,5,0;t0,1,5,1;a0;l2;", "handUp(0)=3", "suggest(1)=NO");
+        refused("11 NO: the HEAD is LOST, and it is the lowest", "t0,1,5,0;t0,1,5,1;a1;l2;", "handUp(1)=3",
+            "suggest(0)=NO suggest(1)=NO");
         edge("11 on the last day it can be", "t0,1,5,0;t0,1,5,1;a0;l3;", "handUp(0)=3 suggest(1)=1");
         edge("11 how many are ASKED, not BROUGHT: of nothing one, of all eight", EIGHT,
             "suggest(7)=1 suggest(0)=2 suggest(1)=3 suggest(2)=4 suggest(3)=5 suggest(4)=6 suggest(5)=7 suggest(6)=8"
@@ -217,6 +219,9 @@ public final class RideEdgesTest extends Edges {
         edge("13 of handUp", TWO, "handUp(0)=3 undo()=0 task(0,5)=0 count(6)=0 handUp(0)=3");
         edge("13 the latest first", TWO,
             "suggest(1)=2 handUp(1)=5 undo()=1 task(1,4)=1 count(6)=0 undo()=0 task(1,4)=0");
+        edge("13 the latest alone: who was USED stays so", "t0,1,0,0;t0,1,0,1;t0,1,1,2;a0;a1;h0,0;h1,0;h0,0;",
+            "befriend(0)=20 befriend(1)=20 befriend(2)=20 ride(0)=1 suggest(2)=2 undo()=4 helper(0,3)=1 helper(1,3)=0"
+            + " help(1)=4 ride(1)=2 suggest(2)=1 undo()=5 helper(2,3)=1 helper(0,3)=1 helper(1,3)=0");
     }
 
     private static void undoneAtMost() {

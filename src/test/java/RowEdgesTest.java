@@ -57,6 +57,12 @@ public final class RowEdgesTest extends Edges {
             "well(0)=0 befriend(0)=17 well(0)=1 well(1)=0 well(2)=1 well(3)=NONE");
         edge("15 with FRIENDS as they are: each is USED once", "t0,1,0,1;t0,1,0,1;a0;h0,0;h0,0;",
             "befriend(0)=20 well(0)=0 befriend(1)=20 well(0)=1");
+        edge("15 the lowest helps: who is left is told by the order",
+            "t0,1,0,0;t3,1,5,1;t0,1,1,2;a0;a1;a2;h0,0;h1,0;h0,0;",
+            "befriend(0)=20 befriend(1)=20 befriend(2)=20 well(0)=5 well(1)=0 well(2)=2 well(3)=1 step(0)=1 step(1)=2"
+            + " step(2)=2");
+        edge("15 those that are USED do not help", "t0,1,0,0;t0,1,0,1;a0;a1;h0,0;h0,0;",
+            "befriend(0)=20 befriend(1)=20 well(0)=2 ride(1)=1 well(0)=1 ride(0)=2 well(0)=1 suggest(0)=NO");
         edge("15 one BY A DAY on day 10", "t0,9,5,0;t0,1,5,1;t4,1,5,2;a0;a1;a2;",
             "well(0)=6 well(1)=0 well(2)=1 well(3)=2");
         edge("15 one BY A DAY not on day 11", "t0,9,5,0;t0,2,5,1;t4,1,5,2;a0;a1;a2;",
@@ -71,6 +77,7 @@ public final class RowEdgesTest extends Edges {
         only("16 what is 0 or 1", TWO, "", "fewest(#)", 0, 1);
         edge("16 the set of nobody, when there is a row WELL", ONE, "fewest(0)=0 fewest(1)=0");
         edge("16 the set of nobody, when nothing is ASKED", "t0,1,0,0;h0,3;", "fewest(0)=0 fewest(1)=0");
+        edge("16 the set of nobody, for a row of eight", EIGHT + ALL_ASKED, "fewest(0)=0 fewest(1)=0");
         edge("16 none: there are no HELPERS", "t0,1,0,0;a0;", "fewest(0)=NONE fewest(1)=NONE");
         edge("16 none: nobody of its KIND", "t0,1,0,0;a0;h1,0;", "fewest(0)=NONE fewest(1)=NONE");
         edge("16 none: it is too late, whoever helps", "t0,2,0,0;a0;h0,0;l1;", "fewest(0)=NONE fewest(1)=NONE");
@@ -85,8 +92,9 @@ public final class RowEdgesTest extends Edges {
         edge("16 of several the lowest as bits", "t0,1,0,0;a0;h1,0;h0,4;h0,4;", "fewest(0)=4 fewest(1)=2");
         edge("16 of several the lowest as bits, be they for nothing", "t0,1,0,0;a0;h0,0;h0,0;c0;",
             "fewest(0)=0 fewest(1)=1");
-        edge("16 of all seven", "t1,1,0,1;t1,1,1,2;t3,1,2,2;a0;h0,9;h0,9;h1,9;h1,9;h2,9;h3,9;c60;",
-            "fewest(0)=54 fewest(1)=63");
+        edge("16 of all seven",
+            "t1,1,0,1;t1,1,1,2;t3,1,2,3;t0,1,3,3;a0;h0,9;h0,9;h1,9;h1,9;h2,9;h4,9;h3,9;c63;",
+            "fewest(0)=63 fewest(1)=127 worth(6,1)=9 worth(0,1)=9");
         edge("16 of the seventh", "t0,1,1,0;a0;h0,0;h0,0;h0,0;h0,0;h0,0;h0,0;h1,20;",
             "fewest(0)=20 fewest(1)=64");
         edge("16 nobody is made a FRIEND by it", TWO, "fewest(0)=3 fewest(1)=1 count(4)=0 count(5)=20 count(9)=0");
@@ -112,6 +120,9 @@ public final class RowEdgesTest extends Edges {
         refused("18 NO: he is a FRIEND", TWO, "befriend(0)=17", "worth(0,0)=NO worth(0,1)=NO");
         refused("18 NO: he is a FRIEND, though USED", TWO, "befriend(0)=17 ride(0)=1", "worth(0,0)=NO worth(0,1)=NO");
         edge("18 0 rows more", TWO, "worth(1,0)=0");
+        edge("18 0 rows more than there are", TWO, "befriend(0)=17 well(0)=1 worth(1,0)=0");
+        edge("18 one row more than there is", "t3,1,0,0;t0,1,1,1;a0;a1;h0,0;h1,0;h2,0;h1,9;",
+            "befriend(0)=20 befriend(1)=20 befriend(2)=20 well(0)=1 worth(3,0)=1 worth(3,1)=0");
         edge("18 one row more, where there was none", TWO, "well(0)=0 worth(0,0)=1");
         edge("18 for nothing: though he is too dear", "t0,1,0,0;a0;h0,5;c4;", "worth(0,0)=1");
         edge("18 for nothing: all that he asks is fewer", TWO, "worth(0,1)=3 worth(1,1)=0");

@@ -223,6 +223,8 @@ public final class TextEdgesTest extends Edges {
         edge("5 nothing KEPT", ONE, "keep()=1 keep()=2 lay()=1 count(10)=0 back()=NO keep()=1");
         edge("5 THE TEXT stays", ONE, "lay()=1 count(11)=12 fault()=NONE wipe()=12");
         edge("5 of fewer TASKS than there were", ONE, "task(1,0)=BAD forWhat(1)=BAD mayCome()=1 helper(0,0)=BAD");
+        edge("5 HELPERS of other KINDS than there were ahead", "t0,1,1,0;t0,1,0,1;a0;a1;h2,0;h0,0;",
+            "lay()=2 befriend(0)=20 help(1)=NO befriend(1)=20 help(0)=NO help(1)=2 lay()=2 befriend(0)=20 help(1)=NO");
     }
 
     private static void layOfTheLastTold() {
