@@ -25,6 +25,8 @@ public final class RideEdgesTest extends Edges {
         only("6 what is 0 to 6", TWO, "befriend(0)=17", "task(0,#)", 0, 6);
         edge("6 the least and the most of each", "t0,0,0,0;t4,9,5,7;".repeat(4),
             "task(0,0)=0 task(0,1)=0 task(0,2)=0 task(0,3)=0 task(7,0)=4 task(7,1)=9 task(7,2)=5 task(7,3)=7");
+        edge("6 the most of each ahead of the least", "t4,9,5,7;t0,0,0,0;".repeat(4),
+            "task(0,0)=4 task(0,1)=9 task(0,2)=5 task(0,3)=7 task(7,0)=0 task(7,1)=0 task(7,2)=0 task(7,3)=0");
         edge("6 N that is itself", ONE, "task(0,3)=0");
         edge("6 one that is BROUGHT is ASKED too, and can not be RIDDEN for", ONE,
             "task(0,6)=1 ride(0)=1 task(0,4)=1 task(0,5)=1 task(0,6)=0");
@@ -38,6 +40,8 @@ public final class RideEdgesTest extends Edges {
         refused("7 no HELPERS", ONE, "", "helper(0,0)=BAD helper(0,3)=BAD helper(-1,0)=BAD helper(7,0)=BAD");
         edge("7 the least and the most of each", "t0,1,5,0;h0,0;h4,20;",
             "helper(0,0)=0 helper(0,1)=0 helper(1,0)=4 helper(1,1)=20");
+        edge("7 the most of each ahead of the least", "t0,1,5,0;h4,20;h0,0;",
+            "helper(0,0)=4 helper(0,1)=20 helper(1,0)=0 helper(1,1)=0");
         edge("7 a FRIEND is not USED till a TASK is RIDDEN for", TWO,
             "helper(0,2)=0 befriend(0)=17 helper(0,2)=1 helper(0,3)=0 ride(0)=1 helper(0,2)=1 helper(0,3)=1"
             + " helper(1,2)=0 helper(1,3)=0");
