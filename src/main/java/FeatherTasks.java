@@ -506,6 +506,38 @@ public final class FeatherTasks {
             return sum;
         }
 
+        /** Whether free friends are as many, of each kind and in all, as rides for a set of tasks use. */
+        boolean isHelpEnough(int set, int free) {
+            int spare = Integer.bitCount(free) - helpOfAny(set);
+            for (int kind = 0; kind < HELP_KINDS; kind++) {
+                int wanted = helpOfKind(set, kind);
+                if (wanted > Integer.bitCount(free & helpersOf(kind))) {
+                    return false;
+                }
+                spare -= wanted;
+            }
+            return spare >= 0;
+        }
+
+        /** How many of a kind, and of no other, rides for a set of tasks use. */
+        private int helpOfKind(int set, int kind) {
+            int wanted = 0;
+            for (int t = 0; t < tasks; t++) {
+                if ((set & bit(t)) != 0 && helpKindOf(t) == kind && kindOf(t) != DONE) {
+                    wanted += kindOf(t) == IMPOSSIBLE ? 2 : 1;
+                }
+            }
+            return wanted;
+        }
+
+        private int helpOfAny(int set) {
+            int wanted = 0;
+            for (int t = 0; t < tasks; t++) {
+                wanted += (set & bit(t)) != 0 && kindOf(t) == FOR_TWO ? 1 : 0;
+            }
+            return wanted;
+        }
+
         /** The tasks behind which t is asked; t itself is not, since a N that is itself is none. */
         int tasksThatAsk(int t) {
             int set = 0;
@@ -862,17 +894,20 @@ public final class FeatherTasks {
 
     /** Goes through the rows from a standing on. */
     private static final class Search {
+        private static final int CELLS = 4096;
+        private static final int KEY_BITS = 15;
         private static final int WAYS_BITS = 16;
         private static final long ALL = 1L << WAYS_BITS;
 
         // By tasks brought and friends used: behind these the ways on are the same, whatever the order.
-        // A cell holds the number of the search it is of and, below it, the ways (8! at most).
-        private final long[] known = new long[TASK_SETS * HELPER_SETS];
+        // A search meets some hundreds of the 32768 such keys, so several keys share a cell to keep the row short.
+        // A cell holds the number of the search it is of, the key and, lowest, the ways (8! at most).
+        private final long[] known = new long[CELLS];
         private final Standing road = new Standing();
         private final Seen unseen;
         private long number;
         private long enough;
-        private boolean tooLong;
+        private boolean hopeless;
         private Months months;
         private Seen heeded;
 
@@ -883,20 +918,19 @@ public final class FeatherTasks {
         }
 
         int waysOf(Months laid, Standing from, Seen seen) {
-            begin(laid, from, seen, ALL);
+            begin(laid, from, 0, seen, ALL);
             return (int) waysOn(this, 0);
         }
 
         /** Whether a row ends well, were the helpers of a set friends too. */
         boolean endsWellWith(Months laid, Standing from, int set) {
-            begin(laid, from, unseen, 1);
-            road.friends |= set;
+            begin(laid, from, set, unseen, 1);
             return waysOn(this, 0) > 0;
         }
 
         /** The task at a place (1 or more) of the first row, or NONE. */
         int placeInFirst(Months laid, Standing from, Seen seen, int place) {
-            begin(laid, from, seen, 1);
+            begin(laid, from, 0, seen, 1);
             int t = NONE;
             for (int rides = 0; rides < place; rides++) {
                 t = rideFirst(rides);
@@ -926,14 +960,17 @@ public final class FeatherTasks {
             return best;
         }
 
-        private void begin(Months laid, Standing from, Seen seen, long most) {
+        private void begin(Months laid, Standing from, int more, Seen seen, long most) {
             months = laid;
             heeded = seen;
             enough = most;
             number++;
             road.unpack(from.packed());
-            // A row that ends well rides for all that may come, so all of them end on the same day.
-            tooLong = road.day + laid.rideDaysOfSet(road.tasksToCome(laid)) > laid.lastDay;
+            road.friends |= more;
+            // A row that ends well rides for all that may come: its days and its help are known ahead.
+            int come = road.tasksToCome(laid);
+            hopeless = road.day + laid.rideDaysOfSet(come) > laid.lastDay
+                || !laid.isHelpEnough(come, road.freeFriends());
         }
 
         /** Rides for the lowest task by which a row ends well: that task, or NONE. */
@@ -953,7 +990,7 @@ public final class FeatherTasks {
         /** How many ways on end well (no more than is enough); the road is left as it was. */
         private static long waysOn(Search search, int rides) {
             Standing road = search.road;
-            if (search.tooLong) {
+            if (search.hopeless) {
                 return 0;
             }
             if (road.openTasks() == 0) {
@@ -962,8 +999,8 @@ public final class FeatherTasks {
             if (rides >= MOST_TASKS) {
                 return 0;
             }
-            int cell = (road.brought & 255) * HELPER_SETS + (road.used & 127);
-            long ways = search.recall(cell);
+            int key = road.brought * HELPER_SETS + road.used;
+            long ways = search.recall(key);
             if (ways >= 0) {
                 return ways;
             }
@@ -975,21 +1012,28 @@ public final class FeatherTasks {
                     road.unpack(before);
                 }
             }
-            search.remember(cell, ways);
+            search.remember(key, ways);
             return ways;
         }
 
-        private long recall(int cell) {
-            if (cell < 0 || cell >= known.length || known[cell] >> WAYS_BITS != number) {
+        private long recall(int key) {
+            int cell = cellOf(key);
+            if (cell < 0 || cell >= known.length || known[cell] >> WAYS_BITS != (number << KEY_BITS | key)) {
                 return NONE;
             }
             return known[cell] & ALL - 1;
         }
 
-        private void remember(int cell, long ways) {
+        private void remember(int key, long ways) {
+            int cell = cellOf(key);
             if (cell >= 0 && cell < known.length) {
-                known[cell] = number << WAYS_BITS | ways;
+                known[cell] = (number << KEY_BITS | key) << WAYS_BITS | ways;
             }
+        }
+
+        /** Keys that are near one another lie far apart, so that few meet in a cell. */
+        private static int cellOf(int key) {
+            return key * 40503 >> 4 & CELLS - 1;
         }
     }
 }

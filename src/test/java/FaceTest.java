@@ -26,6 +26,7 @@ public final class FaceTest {
         insideClasses();
         source(Files.readString(Path.of(args[0])));
         makesNothingInCalls();
+        makesLittleAtFirst();
         due.end();
     }
 
@@ -142,6 +143,19 @@ public final class FaceTest {
         }
         long made = threads.getThreadAllocatedBytes(self) - before;
         due.holds("made " + made + " bytes in 50 rounds, sum " + sum, made < 20000);
+    }
+
+    /** Elements of eight bytes at most: so 7.3 million of them are room for a thousand objects. */
+    private static void makesLittleAtFirst() {
+        var threads = (com.sun.management.ThreadMXBean) java.lang.management.ManagementFactory.getThreadMXBean();
+        long self = Thread.currentThread().getId();
+        long before = threads.getThreadAllocatedBytes(self);
+        long sum = 0;
+        for (int i = 0; i < 100; i++) {
+            sum += new FeatherTasks().count(0);
+        }
+        long made = (threads.getThreadAllocatedBytes(self) - before) / 100;
+        due.holds("made " + made + " bytes for an object, sum " + sum, made < 7300 * 8);
     }
 
     private static long callAll(FeatherTasks x) {

@@ -2,6 +2,7 @@
 public final class SlowTest {
     private static final int RUNS = 2500;
     private static final int CALLS = 90;
+    private static final int CROWDED_RUNS = 60;
     private static final Due due = new Due("SlowTest");
 
     private long seed;
@@ -17,6 +18,10 @@ public final class SlowTest {
         for (int run = 0; run < RUNS && due.allRight(); run++) {
             due.promise("run " + run);
             new SlowTest(run).go(run);
+        }
+        for (int run = 0; run < CROWDED_RUNS && due.allRight(); run++) {
+            due.promise("crowded run " + run);
+            new SlowTest(run).goCrowded();
         }
         due.end();
     }
@@ -37,7 +42,7 @@ public final class SlowTest {
 
     private void go(int run) {
         if (!oneOf(8)) {
-            layText();
+            layText(drawText());
         }
         for (int call = 0; call < CALLS && due.allRight(); call++) {
             oneCall();
@@ -52,11 +57,7 @@ public final class SlowTest {
         }
     }
 
-    private void layText() {
-        String text = drawText();
-        if (oneOf(6)) {
-            text = spoilt(text);
-        }
+    private void layText(String text) {
         same("wipe()", x.wipe(), slow.wipe());
         for (int i = 0; i < text.length(); i++) {
             same("write(" + text.charAt(i) + ")", x.write(text.charAt(i)), slow.write(text.charAt(i)));
@@ -65,8 +66,52 @@ public final class SlowTest {
         same("lay()", x.lay(), slow.lay());
     }
 
-    /** Few tasks need help of a kind that nobody has, so that rows often end well. */
+    /** All tasks, all helpers, nearly all asked: then the search has the most to tell apart. */
+    private void goCrowded() {
+        layText(drawCrowdedText());
+        same("fewest(1)", x.fewest(1), slow.fewest(1));
+        same("worth(6,1)", x.worth(6, 1), slow.worth(6, 1));
+        for (int h = 0; h < 7; h++) {
+            same("befriend(" + h + ")", x.befriend(h), slow.befriend(h));
+        }
+        for (int k = 0; k <= 8; k += 2) {
+            same("well(" + k + ")", x.well(k), slow.well(k));
+        }
+        int t = draw(8);
+        same("step(" + t + ")", x.step(t), slow.step(t));
+        int n = 1 + draw(8);
+        same("see(" + t + "," + n + ")", x.see(t, n), slow.see(t, n));
+        same("rows(0)", x.rows(0), slow.rows(0));
+        same("rows(1)", x.rows(1), slow.rows(1));
+    }
+
+    private String drawCrowdedText() {
+        StringBuilder text = new StringBuilder();
+        int kinds = 1 + draw(5);
+        for (int t = 0; t < 8; t++) {
+            int kind = oneOf(3) ? 3 : draw(5);
+            int help = oneOf(2) ? 5 : draw(kinds);
+            text.append('t').append(kind).append(',').append(draw(3)).append(',').append(help).append(',')
+                .append(oneOf(2) ? t : draw(8)).append(';');
+        }
+        for (int h = 0; h < 7; h++) {
+            text.append('h').append(draw(kinds)).append(',').append(draw(3)).append(';');
+        }
+        for (int t = 0; t < 8; t++) {
+            if (!oneOf(8)) {
+                text.append('a').append(t).append(';');
+            }
+        }
+        return text.append("l60;").toString();
+    }
+
     private String drawText() {
+        String text = drawFaultlessText();
+        return oneOf(6) ? spoilt(text) : text;
+    }
+
+    /** Few tasks need help of a kind that nobody has, so that rows often end well. */
+    private String drawFaultlessText() {
         StringBuilder text = new StringBuilder();
         int tasks = oneOf(12) ? 7 + draw(2) : 1 + draw(6);
         int helpers = oneOf(4) ? 0 : draw(8);
@@ -145,7 +190,7 @@ public final class SlowTest {
         } else if (kind == 98) {
             same("fault()", x.fault(), slow.fault());
         } else if (oneOf(3)) {
-            layText();
+            layText(drawText());
         }
     }
 
